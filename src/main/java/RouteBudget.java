@@ -994,7 +994,6 @@ public final class RouteBudget {
         /** The draft, which is empty in a network that is read, holds the route until its semicolon. */
         boolean readRoute(State state) {
             Path path = state.draft;
-            path.clear();
             skipSpaces();
             for (int n = 0; n < MOST_TEXT && (n == 0 || isAtDigit()); n++) {
                 int start = place;

@@ -56,6 +56,12 @@ public final class JourneyTest {
         // A circle that costs nothing does not help, and does no harm.
         RouteBudget x = Checks.loaded("net 4 0 3;arc 0 1 0 0;arc 1 0 0 0;arc 1 2 0 9;arc 2 1 0 0;arc 2 3 1 4;");
         values(x, 0, 1, 10, 14, 14, 14, 14, 14);
+        // Nothing of a value is left in a circle when its way out is gone.
+        RouteBudget w = Checks.loaded("net 3 0 2;arc 0 1 0 0;arc 1 0 0 0;arc 1 2 5 0;");
+        values(w, 0, 5, 5, 5, 5, 5, 5, 5);
+        w.removeArc(2);
+        values(w, 0, -1, -1, -1, -1, -1, -1, -1);
+        values(w, 1, -1, -1, -1, -1, -1, -1, -1);
         // Turning back is better than going on when the delay on the way has been spent.
         RouteBudget y = Checks.loaded("net 3 0 2;arc 0 1 1 50;arc 1 2 1 0;arc 1 0 0 0;arc 0 2 9 0;");
         values(y, 0, 2, 9, 9);
@@ -118,6 +124,15 @@ public final class JourneyTest {
         CHECKS.same("undo", x.undo(), 2);
         CHECKS.same("undo", x.undo(), 1);
         CHECKS.same("left budget", x.count(10), 1);
+        x.step(0, true);
+        x.restart();
+        CHECKS.same("step(0, false)", x.step(0, false), 2);
+        x.step(5, false);
+        x.undo();
+        x.undo();
+        CHECKS.same("undo of restart", x.undo(), 2);
+        CHECKS.same("time", x.count(9), 7);
+        CHECKS.same("left budget", x.count(10), 0);
         RouteBudget y = Checks.loaded("net 2 0 1;arc 0 1 4 0;");
         CHECKS.same("a delay without extra", y.step(0, true), 4);
         CHECKS.same("costs budget all the same", y.count(10), 1);

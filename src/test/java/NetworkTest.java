@@ -128,6 +128,14 @@ public final class NetworkTest {
         CHECKS.same("forget", y.forget(0), 0);
         CHECKS.same("the only arc", y.removeArc(0), 0);
         CHECKS.same("routes", y.count(7), 0);
+
+        RouteBudget z = Checks.loaded("net 2 0 1;" + "arc 1 0 3 3;".repeat(10) + "arc 0 1 4 4;".repeat(6)
+                + "route 10;route 11;route 12;route 13;route 14;route 15;");
+        CHECKS.same("the first of 16 arcs, with six routes", z.removeArc(0), 15);
+        for (int route = 0; route < 6; route++) {
+            CHECKS.same("routeArc(" + route + ", 0)", z.routeArc(route, 0), 9 + route);
+        }
+        CHECKS.same("the last arc", z.arc(14, 2), 4);
     }
 
     private static void promise8RemoveArcRefuses() {
@@ -135,6 +143,8 @@ public final class NetworkTest {
         x.draft(2);
         CHECKS.refuses(x, "an arc of a told route", IllegalStateException.class, () -> x.removeArc(0));
         CHECKS.refuses(x, "its last arc", IllegalStateException.class, () -> x.removeArc(1));
+        RouteBudget y = Checks.loaded(NET + "route 2 4 1;route 2 3;");
+        CHECKS.refuses(y, "an arc of the second told route", IllegalStateException.class, () -> y.removeArc(3));
         CHECKS.refuses(x, "an arc of the draft", IllegalStateException.class, () -> x.removeArc(2));
         CHECKS.refuses(x, "removeArc(5)", IndexOutOfBoundsException.class, () -> x.removeArc(5));
         CHECKS.refuses(x, "removeArc(-1)", IndexOutOfBoundsException.class, () -> x.removeArc(-1));

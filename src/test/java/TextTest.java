@@ -111,6 +111,13 @@ public final class TextTest {
         CHECKS.same("what is seen", Checks.seen(x).replace(" 45 ", " -1 "), before);
         CHECKS.same("undo goes to before the step", x.undo(), 2);
         CHECKS.same("its steps", x.count(11), 0);
+        CHECKS.same("an error on the way of a route", Checks.load(x, "net 3 0 2;arc 0 1 1 1;arc 1 2 1 1;route 0 0;"), -3);
+        CHECKS.same("then a right text", Checks.load(x, "net 3 0 2;arc 0 1 1 1;arc 1 2 1 1;"), 2);
+        CHECKS.same("its draft is empty", x.count(6), 0);
+        CHECKS.same("an error behind a route", Checks.load(x, "net 2 0 1;arc 0 1 1 1;route 0;budget 6;arc"), -2);
+        CHECKS.same("then a right text", Checks.load(x, "net 2 0 1;arc 0 1 1 1;"), 1);
+        CHECKS.same("its told routes", x.count(5), 0);
+        CHECKS.same("its budget", x.count(4), 2);
     }
 
     private static void fails(String text, int code, int position) {
@@ -143,6 +150,12 @@ public final class TextTest {
         fails("net 2 0 1;\u00ff", -2, 10);
         fails("net 2 0 1; arcs 0 1 1 1;", -2, 11);
         fails("net 2 0 1; ar c 0 1 1 1;", -2, 11);
+        fails("net 2 0 1; arcz 0 1 1 1;", -2, 11);
+        fails("net 2 0 1; arca 0 1 1 1;", -2, 11);
+        fails("net 2 0 1; brc 0 1 1 1;", -2, 11);
+        fails("net 2 0 1; arb 0 1 1 1;", -2, 11);
+        fails("net 2 0 1; budged 1;", -2, 11);
+        fails("net 2 0 1; rout 0;", -2, 11);
         fails("net 2 0 1; arc 0 1 1;", -2, 20);
         fails("net 2 0 1; arc 0 1 1 1 1;", -2, 23);
         fails("net 2 0 1; arc 0 1 1 1", -2, 22);

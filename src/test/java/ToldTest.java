@@ -47,7 +47,14 @@ public final class ToldTest {
 
         RouteBudget y = Checks.loaded("net 8 0 7;arc 0 1 1 1;arc 1 2 1 1;arc 2 3 1 1;arc 3 4 1 1;arc 4 5 1 1;arc 5 6 1 1;"
                 + "arc 6 7 1 1;");
-        for (int arc = 0; arc < 7; arc++) {
+        y.addArc(4, 3, 1, 1);
+        y.addArc(4, 2, 1, 1);
+        for (int arc = 0; arc < 4; arc++) {
+            CHECKS.same("a long draft", y.draft(arc), arc + 1);
+        }
+        CHECKS.refuses(y, "back to the node before", IllegalStateException.class, () -> y.draft(7));
+        CHECKS.refuses(y, "back to a node in the middle", IllegalStateException.class, () -> y.draft(8));
+        for (int arc = 4; arc < 7; arc++) {
             CHECKS.same("the longest draft", y.draft(arc), arc + 1);
         }
         CHECKS.same("tell", y.tell(), 0);
@@ -183,6 +190,11 @@ public final class ToldTest {
         x.forget(0);
         x.forget(1);
         numbers(x, 0, 3, 5, 5, 0, 1, 0, 0, 0);
+        RouteBudget y = Checks.loaded(NET + "route 4;route 0 1;route 0 5 3;route 2 3;");
+        CHECKS.same("the regret witness asked for first", y.route(2, 5), 32);
+        CHECKS.same("then the told regret of another one", y.route(0, 6), 5);
+        CHECKS.same("then the regret of yet another one", y.route(1, 4), 3);
+        CHECKS.same("then another regret witness", y.route(3, 5), 8);
     }
 
     private static void promise17Witness() {
