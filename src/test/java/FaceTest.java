@@ -3,6 +3,7 @@ import java.lang.reflect.Constructor;
 import java.lang.reflect.Field;
 import java.lang.reflect.Method;
 import java.lang.reflect.Modifier;
+import java.nio.file.DirectoryStream;
 import java.nio.file.Files;
 import java.nio.file.Path;
 import java.util.ArrayList;
@@ -24,14 +25,15 @@ public final class FaceTest {
         members();
         names();
         words();
+        promises();
         CHECKS.end();
     }
 
     private static void constants() {
-        CHECKS.same("NONE", RouteBudget.NONE, -1);
-        CHECKS.same("SYNTAX_ERROR", RouteBudget.SYNTAX_ERROR, -2);
-        CHECKS.same("VALUE_ERROR", RouteBudget.VALUE_ERROR, -3);
-        CHECKS.same("TOO_MANY", RouteBudget.TOO_MANY, -4);
+        CHECKS.yes("NONE = -1", RouteBudget.NONE == -1);
+        CHECKS.yes("SYNTAX_ERROR = -2", RouteBudget.SYNTAX_ERROR == -2);
+        CHECKS.yes("VALUE_ERROR = -3", RouteBudget.VALUE_ERROR == -3);
+        CHECKS.yes("TOO_MANY = -4", RouteBudget.TOO_MANY == -4);
     }
 
     /** Each signature of the document's face, by types: result, name, parameters, exceptions. */
@@ -53,7 +55,7 @@ public final class FaceTest {
                         + (method.getExceptionTypes().length == 0 ? "" : listed(" throws ", method.getExceptionTypes(), "")));
             }
         }
-        CHECKS.same("number of methods", due.size(), 34);
+        CHECKS.yes("the document has 34 methods", due.size() == 34);
         CHECKS.same("the face", got.toString(), due.toString());
     }
 
@@ -67,9 +69,8 @@ public final class FaceTest {
         int modifiers = RouteBudget.class.getModifiers();
         CHECKS.yes("public final class", Modifier.isPublic(modifiers) && Modifier.isFinal(modifiers));
         Constructor<?>[] constructors = RouteBudget.class.getDeclaredConstructors();
-        CHECKS.same("constructors", constructors.length, 1);
-        CHECKS.yes("public constructor without parameters",
-                Modifier.isPublic(constructors[0].getModifiers()) && constructors[0].getParameterCount() == 0);
+        CHECKS.yes("one constructor, public and without parameters", constructors.length == 1
+                && Modifier.isPublic(constructors[0].getModifiers()) && constructors[0].getParameterCount() == 0);
         Set<String> constants = Set.of("NONE", "SYNTAX_ERROR", "VALUE_ERROR", "TOO_MANY");
         for (Field field : RouteBudget.class.getDeclaredFields()) {
             boolean isConstant = constants.contains(field.getName());
@@ -79,14 +80,14 @@ public final class FaceTest {
                     !Modifier.isStatic(field.getModifiers()) || Modifier.isFinal(field.getModifiers()));
         }
         for (Method method : RouteBudget.class.getDeclaredMethods()) {
-            CHECKS.yes(method + " is public or private",
-                    Modifier.isPublic(method.getModifiers()) || Modifier.isPrivate(method.getModifiers()));
+            CHECKS.yes(method + " is public or private", method.isSynthetic()
+                    || Modifier.isPublic(method.getModifiers()) || Modifier.isPrivate(method.getModifiers()));
         }
         for (Class<?> inner : RouteBudget.class.getDeclaredClasses()) {
-            CHECKS.yes(inner + " is private and static",
-                    Modifier.isPrivate(inner.getModifiers()) && Modifier.isStatic(inner.getModifiers()));
+            CHECKS.yes(inner + " is private or package-visible", !Modifier.isPublic(inner.getModifiers())
+                    && !Modifier.isProtected(inner.getModifiers()));
         }
-        CHECKS.yes("some twelve classes", RouteBudget.class.getDeclaredClasses().length <= 11);
+        CHECKS.yes("some twelve classes", RouteBudget.class.getDeclaredClasses().length <= 12);
     }
 
     /** No method besides the face bears a name of the face, and none has more than seven parameters. */
@@ -100,12 +101,16 @@ public final class FaceTest {
                 own.add(method);
             }
         }
-        for (Class<?> inner : RouteBudget.class.getDeclaredClasses()) {
-            own.addAll(Arrays.asList(inner.getDeclaredMethods()));
-            CHECKS.yes(inner + " has some twenty fields", inner.getDeclaredFields().length <= 20);
-        }
         for (Method method : own) {
             CHECKS.yes(method + " has a name of its own", !face.contains(method.getName()));
+        }
+        for (Class<?> inner : RouteBudget.class.getDeclaredClasses()) {
+            own.addAll(Arrays.asList(inner.getDeclaredMethods()));
+            long fields = Arrays.stream(inner.getDeclaredFields()).filter(field -> !Modifier.isStatic(field.getModifiers()))
+                    .count();
+            CHECKS.yes(inner + " has some twenty fields", fields <= 20);
+        }
+        for (Method method : own) {
             CHECKS.yes(method + " has at most seven parameters", method.getParameterCount() <= 7);
         }
     }
@@ -113,16 +118,30 @@ public final class FaceTest {
     /** Words and signs that the rules leave out, and imports beyond their library. */
     private static void words() throws IOException {
         String source = Files.readString(PROGRAM).replaceAll("(?s)/\\*.*?\\*/", "").replaceAll("//[^\n]*", "");
-        for (String word : List.of("synchronized", "assert", "finally", "catch", "try", "package", "System\\.out",
-                "Object", "long\\s*\\.\\.\\.", "Math\\.\\w+Exact", "getMessage", "hashCode", "native", "volatile")) {
+        for (String word : List.of("synchronized", "assert", "finally", "package", "System\\.out", "Math\\.\\w+Exact",
+                "getMessage", "hashCode", "native", "volatile", "ArrayIndexOutOfBoundsException", "NullPointerException",
+                "ClassCastException", "NegativeArraySizeException", "ArrayStoreException")) {
             CHECKS.yes("no " + word + " in the program", !Pattern.compile("\\b" + word + "\\b").matcher(source).find());
         }
-        CHECKS.yes("no lambda and no method reference", !source.contains("->") && !source.contains("::"));
+        CHECKS.yes("no method reference", !source.contains("::"));
+        Set<String> library = Set.of("ArrayList", "List", "Iterator", "Arrays", "NoSuchElementException");
         for (String line : source.split("\n")) {
             if (line.startsWith("import ")) {
-                CHECKS.yes(line + " is allowed",
-                        line.equals("import java.util.Arrays;") || line.equals("import java.util.NoSuchElementException;"));
+                CHECKS.yes(line + " is allowed", library.contains(line.replaceAll("import java\\.util\\.(\\w+);.*", "$1")));
             }
+        }
+    }
+
+    /** Each promise has a run that names it. */
+    private static void promises() throws IOException {
+        StringBuilder tests = new StringBuilder();
+        try (DirectoryStream<Path> files = Files.newDirectoryStream(Path.of("src/test/java"), "*Test.java")) {
+            for (Path file : files) {
+                tests.append(Files.readString(file));
+            }
+        }
+        for (int promise = 1; promise <= 35; promise++) {
+            CHECKS.yes("a test names promise " + promise, tests.indexOf("\"promise " + promise + ", ") >= 0);
         }
     }
 }

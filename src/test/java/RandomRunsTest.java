@@ -1,15 +1,20 @@
 import java.util.Random;
 import java.util.function.IntSupplier;
 
-/** Long runs of calls, drawn from fixed seeds, on the program and on the model: all answers must agree. */
+/**
+ * Long runs of calls, drawn from fixed seeds, on the program and on the model: all answers must agree. No
+ * object gets more than 512 calls, since what it answers behind them is free.
+ */
 public final class RandomRunsTest {
     private static final int RUNS = 1500;
-    private static final int CALLS = 400;
+    /** A draw makes at most 33 calls. */
+    private static final int LAST_DRAW = Player.MOST_CALLS - 33;
     private final Checks checks = new Checks();
     private Random random;
     private RouteBudget x;
     private Model model;
     private String told;
+    private int calls;
 
     public static void main(String[] args) {
         new RandomRunsTest().runAll();
@@ -20,8 +25,9 @@ public final class RandomRunsTest {
             random = new Random(seed);
             x = new RouteBudget();
             model = new Model();
-            for (int call = 0; call < CALLS; call++) {
-                told = "seed " + seed + ", call " + call + ": ";
+            calls = 0;
+            while (calls < LAST_DRAW) {
+                told = "seed " + seed + ", call " + calls + ": ";
                 // A big network asks for much of the model, so runs differ in how often it is asked.
                 oneCall(seed % 3 == 0 ? 34 : 22);
             }
@@ -30,7 +36,19 @@ public final class RandomRunsTest {
     }
 
     private void same(String call, IntSupplier program, IntSupplier due) {
-        checks.same(told + call, Checks.answer(program), Checks.answer(due));
+        calls++;
+        if (calls > Player.MOST_CALLS) {
+            throw new Error("the test makes more than 512 calls on one object");
+        }
+        checks.same(told + call, answer(program), answer(due));
+    }
+
+    private static String answer(IntSupplier run) {
+        try {
+            return String.valueOf(run.getAsInt());
+        } catch (RuntimeException e) {
+            return "throws." + e.getClass().getSimpleName();
+        }
     }
 
     private int upTo(int most) {

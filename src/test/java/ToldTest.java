@@ -1,326 +1,210 @@
-/** Promises 11 to 21: draft, drop, reason, tell, forget, routeArc, route, cost, chosen, beats and strain. */
+/** Promises 11 to 16: draft, drop, reason, tell, forget and routeArc. */
 public final class ToldTest {
     private static final Checks CHECKS = new Checks();
-
-    /** All routes: 0 1, 0 5 3, 2 3 and 4, with the plain costs 4, 5, 6 and 9. */
-    static final String NET = "net 4 0 3;budget 1;arc 0 1 2 5;arc 1 3 2 0;arc 0 2 3 1;arc 2 3 3 2;arc 0 3 9 0;arc 1 2 0 4;";
+    /** All routes: 0 1, 0 5 3, 2 3 and 4. */
+    private static final String NET =
+            "net 4 0 3;budget 1;arc 0 1 2 5;arc 1 3 2 0;arc 0 2 3 1;arc 2 3 3 2;arc 0 3 9 0;arc 1 2 0 4;";
     private static final String SIX = "net 2 0 1;" + "arc 0 1 1 1;".repeat(8)
             + "route 0;route 1;route 2;route 3;route 4;route 5;";
+    private static final String CHAIN = "net 8 0 7;arc 0 1 1 1;arc 1 2 1 1;arc 2 3 1 1;arc 3 4 1 1;arc 4 5 1 1;"
+            + "arc 5 6 1 1;arc 6 7 1 1;arc 4 3 1 1;arc 4 2 1 1;arc 6 0 1 1;arc 7 1 1 1;arc 6 1 1 1;";
 
     public static void main(String[] args) {
-        promise11Draft();
-        promise12Drop();
-        promise13Reason();
-        promise14Tell();
-        promise15Forget();
-        promise16RouteArc();
-        promise17Route();
-        promise17Witness();
-        promise17RegretWitness();
-        promise17ToldRegret();
-        promise17Refuses();
-        promise18Cost();
-        promise19Chosen();
-        promise20Beats();
-        promise21Strain();
+        promise11();
+        promise11Begins();
+        promise11Node();
+        promise11Target();
+        promise11OutOfRange();
+        promise12();
+        promise13();
+        promise13Six();
+        promise14();
+        promise14Refuses();
+        promise15();
+        promise15Numbers();
+        promise16();
         CHECKS.end();
     }
 
-    private static void promise11Draft() {
-        RouteBudget x = Checks.loaded("net 5 1 3;arc 1 2 1 1;arc 2 1 1 1;arc 2 4 1 1;arc 4 2 1 1;arc 4 3 1 1;arc 3 0 1 1;"
-                + "arc 4 1 1 1;");
-        CHECKS.refuses(x, "draft(7)", IndexOutOfBoundsException.class, () -> x.draft(7));
-        CHECKS.refuses(x, "draft(-1)", IndexOutOfBoundsException.class, () -> x.draft(-1));
-        CHECKS.refuses(x, "not from the source", IllegalStateException.class, () -> x.draft(2));
-        CHECKS.same("draft(0)", x.draft(0), 2);
-        CHECKS.refuses(x, "back to the source", IllegalStateException.class, () -> x.draft(1));
-        CHECKS.refuses(x, "an arc of another node", IllegalStateException.class, () -> x.draft(0));
-        CHECKS.same("draft(2)", x.draft(2), 4);
-        CHECKS.refuses(x, "to a node of the draft", IllegalStateException.class, () -> x.draft(3));
-        CHECKS.refuses(x, "to the source", IllegalStateException.class, () -> x.draft(6));
-        CHECKS.same("draft(4)", x.draft(4), 3);
-        CHECKS.refuses(x, "behind the target", IllegalStateException.class, () -> x.draft(5));
-        CHECKS.same("arcs of the draft", x.count(6), 3);
-        CHECKS.same("undo", x.undo(), 3);
-        CHECKS.same("arcs of the draft", x.count(6), 2);
-        CHECKS.same("draft(4)", x.draft(4), 3);
+    private static Run run(String name) {
+        return new Run(CHECKS, name);
+    }
 
-        RouteBudget y = Checks.loaded("net 8 0 7;arc 0 1 1 1;arc 1 2 1 1;arc 2 3 1 1;arc 3 4 1 1;arc 4 5 1 1;arc 5 6 1 1;"
-                + "arc 6 7 1 1;");
-        y.addArc(4, 3, 1, 1);
-        y.addArc(4, 2, 1, 1);
-        for (int arc = 0; arc < 4; arc++) {
-            CHECKS.same("a long draft", y.draft(arc), arc + 1);
+    /** "Appends an arc to the draft.", "Returns the node to which the draft leads then." */
+    private static void promise11() {
+        run("promise 11, the node to which the draft leads then").load(NET, 6).due("draft(0)", 1).due("count(6)", 1)
+                .due("draft(5)", 2).due("count(6)", 2).due("draft(3)", 3).due("count(6)", 3).due("tell()", 0)
+                .each("routeArc(0, #)", 0, 5, 3);
+        Run chain = run("promise 11, the longest draft").load(CHAIN, 12);
+        for (int arc = 0; arc < 7; arc++) {
+            chain.due("draft(" + arc + ")", arc + 1).due("count(6)", arc + 1);
         }
-        CHECKS.refuses(y, "back to the node before", IllegalStateException.class, () -> y.draft(7));
-        CHECKS.refuses(y, "back to a node in the middle", IllegalStateException.class, () -> y.draft(8));
-        for (int arc = 4; arc < 7; arc++) {
-            CHECKS.same("the longest draft", y.draft(arc), arc + 1);
-        }
-        CHECKS.same("tell", y.tell(), 0);
-        CHECKS.same("its arcs", y.route(0, 0), 7);
+        chain.due("reason()", 0).due("tell()", 0).due("route(0, 0)", 7);
+        run("promise 11, the highest arc").load("net 2 0 1;" + "arc 0 1 1 1;".repeat(16), 16).due("draft(15)", 1)
+                .due("tell()", 0).due("routeArc(0, 0)", 15);
+        run("promise 11, the draft does not move the journey").load(NET, 6).make("draft(0)").due("count(8)", 0)
+                .due("count(9)", 0).due("count(11)", 0).make("step(2, true)", "draft(5)").due("count(8)", 2)
+                .due("count(9)", 4).due("count(10)", 0).due("count(11)", 1);
+        run("promise 11, one change").load(NET, 6).undoes("draft(0)").make("draft(0)").undoes("draft(5)").undoes("draft(1)");
     }
 
-    private static void promise12Drop() {
-        RouteBudget x = Checks.loaded(NET);
-        CHECKS.refuses(x, "drop of nothing", IllegalStateException.class, x::drop);
-        x.draft(0);
-        x.draft(5);
-        CHECKS.same("drop", x.drop(), 1);
-        CHECKS.same("draft goes on", x.draft(1), 3);
-        CHECKS.same("drop", x.drop(), 1);
-        CHECKS.same("drop", x.drop(), 0);
-        CHECKS.refuses(x, "drop of nothing", IllegalStateException.class, x::drop);
-        CHECKS.same("draft begins anew", x.draft(2), 2);
-        CHECKS.same("undo", x.undo(), 7);
-        CHECKS.same("undo of a drop", x.undo(), 6);
-        CHECKS.same("arcs of the draft", x.count(6), 1);
+    /** "the arc does not begin where the draft is (the source at first)" */
+    private static void promise11Begins() {
+        run("promise 11, not at the source").load(NET, 6).refuses("draft(1)", Run.STATE).refuses("draft(3)", Run.STATE)
+                .refuses("draft(5)", Run.STATE).due("draft(2)", 2);
+        run("promise 11, at a source that is not node 0").load("net 3 2 0;arc 0 1 1 1;arc 2 1 1 1;arc 1 0 1 1;", 3)
+                .refuses("draft(0)", Run.STATE).refuses("draft(2)", Run.STATE).due("draft(1)", 1)
+                .refuses("draft(0)", Run.STATE).due("draft(2)", 0);
+        run("promise 11, not where the draft is").load(NET, 6).make("draft(0)").refuses("draft(3)", Run.STATE)
+                .refuses("draft(0)", Run.STATE).refuses("draft(2)", Run.STATE).refuses("draft(4)", Run.STATE)
+                .due("draft(1)", 3);
+        run("promise 11, not where the journey is").load(NET, 6).make("step(0, false)").refuses("draft(1)", Run.STATE)
+                .due("draft(0)", 1);
+        run("promise 11, where the draft is after drop").load(NET, 6).make("draft(0)", "draft(5)", "drop()")
+                .refuses("draft(3)", Run.STATE).due("draft(1)", 3).make("drop()", "drop()").refuses("draft(1)", Run.STATE)
+                .due("draft(2)", 2);
+        run("promise 11, where the draft is after tell").load(NET, 6).make("draft(4)", "tell()")
+                .refuses("draft(1)", Run.STATE).due("draft(0)", 1);
     }
 
-    private static void promise13Reason() {
-        RouteBudget x = Checks.loaded(NET + "route 0 1;route 4;");
-        CHECKS.same("empty draft", x.reason(), 1);
-        x.draft(0);
-        CHECKS.same("not at the target", x.reason(), 1);
-        x.draft(1);
-        CHECKS.same("told already", x.reason(), 2);
-        x.drop();
-        x.draft(5);
-        x.draft(3);
-        CHECKS.same("another one", x.reason(), 0);
-        x.drop();
-        CHECKS.same("not at the target again", x.reason(), 1);
-        RouteBudget y = Checks.loaded(SIX);
-        CHECKS.same("empty draft with six routes", y.reason(), 1);
-        y.draft(6);
-        CHECKS.same("a seventh route", y.reason(), 3);
-        y.drop();
-        y.draft(5);
-        CHECKS.same("told already, with six routes", y.reason(), 2);
-        y.forget(0);
-        CHECKS.same("told already, with five routes", y.reason(), 2);
-        y.forget(4);
-        CHECKS.same("forgotten", y.reason(), 0);
+    /** "it leads to a node of the draft" */
+    private static void promise11Node() {
+        run("promise 11, back to the source").load("net 3 1 2;arc 1 0 1 1;arc 0 1 1 1;arc 0 2 1 1;", 3).make("draft(0)")
+                .refuses("draft(1)", Run.STATE).due("draft(2)", 2);
+        Run chain = run("promise 11, to a node of the draft").load(CHAIN, 12).make("draft(0)", "draft(1)", "draft(2)",
+                "draft(3)");
+        chain.refuses("draft(7)", Run.STATE).refuses("draft(8)", Run.STATE).make("draft(4)", "draft(5)")
+                .refuses("draft(9)", Run.STATE).refuses("draft(11)", Run.STATE).due("draft(6)", 7);
+        run("promise 11, a node of the draft before is free after drop").load("net 4 0 3;arc 0 1 1 1;arc 0 2 1 1;"
+                + "arc 2 1 1 1;arc 1 2 1 1;", 4).make("draft(0)", "draft(3)").refuses("draft(2)", Run.STATE)
+                .make("drop()", "drop()", "draft(1)").due("draft(2)", 1).refuses("draft(3)", Run.STATE);
+        run("promise 11, a node of a told route does not matter").load(NET + "route 0 5 3;", 6).due("draft(0)", 1)
+                .due("draft(5)", 2).due("draft(3)", 3);
     }
 
-    private static void promise14Tell() {
-        RouteBudget x = Checks.loaded(NET + "route 4;");
-        CHECKS.refuses(x, "tell of an empty draft", IllegalStateException.class, x::tell);
-        x.draft(2);
-        CHECKS.refuses(x, "tell on the way", IllegalStateException.class, x::tell);
-        x.draft(3);
-        CHECKS.same("tell", x.tell(), 1);
-        CHECKS.same("told routes", x.count(5), 2);
-        CHECKS.same("the draft is empty", x.count(6), 0);
-        CHECKS.same("routeArc(1, 0)", x.routeArc(1, 0), 2);
-        CHECKS.same("routeArc(1, 1)", x.routeArc(1, 1), 3);
-        x.draft(4);
-        CHECKS.refuses(x, "tell again", IllegalStateException.class, x::tell);
-        x.drop();
-        CHECKS.same("draft does not change the told route", x.draft(0), 1);
-        CHECKS.same("routeArc(1, 0)", x.routeArc(1, 0), 2);
-        x.undo();
-        x.undo();
-        x.undo();
-        CHECKS.same("undo of tell", x.undo(), 3);
-        CHECKS.same("the draft is back", x.count(6), 2);
-        CHECKS.same("the route is not told", x.count(5), 1);
-        RouteBudget y = Checks.loaded(SIX);
-        y.draft(7);
-        CHECKS.refuses(y, "a seventh route", IllegalStateException.class, y::tell);
-        y.forget(2);
-        CHECKS.same("tell the sixth one", y.tell(), 5);
+    /** "the draft has reached the target" */
+    private static void promise11Target() {
+        run("promise 11, the draft has reached the target").load(CHAIN + "arc 7 4 1 1;arc 0 7 1 1;", 14).due("draft(13)", 7)
+                .refuses("draft(10)", Run.STATE).refuses("draft(12)", Run.STATE).refuses("draft(0)", Run.STATE)
+                .due("drop()", 0).due("draft(0)", 1);
+        run("promise 11, one arc before the target").load(NET, 6).make("draft(0)", "draft(5)").due("draft(3)", 3)
+                .refuses("draft(3)", Run.STATE).refuses("draft(4)", Run.STATE);
     }
 
-    private static void promise15Forget() {
-        RouteBudget x = Checks.loaded(SIX);
-        CHECKS.refuses(x, "forget(6)", IndexOutOfBoundsException.class, () -> x.forget(6));
-        CHECKS.refuses(x, "forget(-1)", IndexOutOfBoundsException.class, () -> x.forget(-1));
-        CHECKS.same("forget(1)", x.forget(1), 5);
-        int[] due = {0, 2, 3, 4, 5};
-        for (int route = 0; route < 5; route++) {
-            CHECKS.same("routeArc(" + route + ", 0)", x.routeArc(route, 0), due[route]);
-        }
-        CHECKS.same("forget the last", x.forget(4), 4);
-        CHECKS.same("routeArc(3, 0)", x.routeArc(3, 0), 4);
-        CHECKS.refuses(x, "forget(4)", IndexOutOfBoundsException.class, () -> x.forget(4));
-        CHECKS.same("undo", x.undo(), 2);
-        CHECKS.same("routeArc(4, 0)", x.routeArc(4, 0), 5);
-        x.step(0, false);
-        CHECKS.same("forget", x.forget(0), 4);
-        CHECKS.same("the journey goes on", x.count(11), 1);
+    private static void promise11OutOfRange() {
+        run("promise 11, the arc does not exist").load(NET, 6).refuses("draft(-1)", Run.OUT).refuses("draft(6)", Run.OUT)
+                .refuses("draft(16)", Run.OUT).refuses("draft(-2147483648)", Run.OUT).refuses("draft(2147483647)", Run.OUT);
+        run("promise 11, no arc exists").refuses("draft(0)", Run.OUT);
+        run("promise 11, the exception named first").load(NET, 6).make("draft(4)").refuses("draft(6)", Run.OUT)
+                .refuses("draft(-1)", Run.OUT);
     }
 
-    private static void promise16RouteArc() {
-        RouteBudget x = Checks.loaded(NET + "route 0 5 3;route 4;");
-        CHECKS.same("routeArc(0, 0)", x.routeArc(0, 0), 0);
-        CHECKS.same("routeArc(0, 1)", x.routeArc(0, 1), 5);
-        CHECKS.same("routeArc(0, 2)", x.routeArc(0, 2), 3);
-        CHECKS.same("routeArc(1, 0)", x.routeArc(1, 0), 4);
-        CHECKS.refuses(x, "routeArc(0, 3)", IndexOutOfBoundsException.class, () -> x.routeArc(0, 3));
-        CHECKS.refuses(x, "routeArc(0, -1)", IndexOutOfBoundsException.class, () -> x.routeArc(0, -1));
-        CHECKS.refuses(x, "routeArc(1, 1)", IndexOutOfBoundsException.class, () -> x.routeArc(1, 1));
-        CHECKS.refuses(x, "routeArc(1, 7)", IndexOutOfBoundsException.class, () -> x.routeArc(1, 7));
-        CHECKS.refuses(x, "routeArc(2, 0)", IndexOutOfBoundsException.class, () -> x.routeArc(2, 0));
-        CHECKS.refuses(x, "routeArc(-1, 0)", IndexOutOfBoundsException.class, () -> x.routeArc(-1, 0));
+    /** "Takes the last arc away from the draft." */
+    private static void promise12() {
+        run("promise 12, it is empty").load(NET, 6).refuses("drop()", Run.STATE).make("draft(0)").due("drop()", 0)
+                .refuses("drop()", Run.STATE);
+        run("promise 12, the number of its arcs afterwards").load(NET, 6).make("draft(0)", "draft(5)", "draft(3)")
+                .due("drop()", 2).due("count(6)", 2).due("draft(3)", 3).due("drop()", 2).due("drop()", 1)
+                .due("draft(1)", 3).due("drop()", 1).due("drop()", 0).due("count(6)", 0).refuses("drop()", Run.STATE);
+        run("promise 12, it is empty after tell and load").load(NET, 6).make("draft(4)", "tell()")
+                .refuses("drop()", Run.STATE).make("draft(0)").load(NET, 6).refuses("drop()", Run.STATE);
+        run("promise 12, the journey goes on").load(NET, 6).make("draft(0)", "step(2, true)", "drop()").due("count(8)", 2)
+                .due("count(9)", 4).due("count(10)", 0).due("count(11)", 1);
+        run("promise 12, of 7 arcs").load(CHAIN, 12).make("draft(0)", "draft(1)", "draft(2)", "draft(3)", "draft(4)",
+                "draft(5)", "draft(6)").due("drop()", 6).due("drop()", 5).due("drop()", 4).due("count(6)", 4);
+        run("promise 12, the target alone can be dropped").load(NET, 6).make("draft(4)").due("reason()", 0).due("drop()", 0)
+                .due("reason()", 1);
+        run("promise 12, one change").load(NET, 6).make("draft(0)").undoes("drop()").make("draft(1)").undoes("drop()");
     }
 
-    private static void numbers(RouteBudget x, int route, int... due) {
-        for (int what = 0; what < due.length; what++) {
-            CHECKS.same("route(" + route + ", " + what + ")", x.route(route, what), due[what]);
-        }
+    /** "1 if it has not reached the target; otherwise 2 if this route was told already; .." */
+    private static void promise13() {
+        run("promise 13, 1 for an empty draft").due("reason()", 1).load(NET, 6).changesNothing("reason()", 1);
+        run("promise 13, 1 on the way").load(NET + "route 0 1;route 0 5 3;", 6).make("draft(0)").due("reason()", 1)
+                .make("draft(5)").due("reason()", 1).make("draft(3)").due("reason()", 2);
+        run("promise 13, 0 at the target").load(NET + "route 0 1;", 6).make("draft(0)", "draft(5)", "draft(3)")
+                .changesNothing("reason()", 0).make("drop()").due("reason()", 1);
+        run("promise 13, 2 if this route was told already").load(NET + "route 0 1;route 4;", 6).make("draft(4)")
+                .changesNothing("reason()", 2).make("drop()", "draft(0)", "draft(1)").due("reason()", 2)
+                .make("forget(1)").due("reason()", 2).make("forget(0)").due("reason()", 0);
+        run("promise 13, another arc makes another route").load(NET + "route 0 1;", 6).make("addArc(1, 3, 2, 0)", "draft(0)",
+                "draft(6)").due("reason()", 0);
+        run("promise 13, the same first arc makes no told route").load(NET + "route 0 5 3;", 6).make("draft(0)", "draft(1)")
+                .due("reason()", 0);
     }
 
-    private static void promise17Route() {
-        RouteBudget x = Checks.loaded(NET + "route 4;route 0 1;route 0 5 3;route 2 3;");
-        // Against arc 0 the shortest cost is 6, against every other one it is 4.
-        numbers(x, 0, 1, 9, 9, 0, 5, 0, 5, 3);
-        numbers(x, 1, 2, 4, 9, 1, 3, 1, 3, 1);
-        numbers(x, 2, 3, 5, 10, 1, 5, 32, 5, 3);
-        numbers(x, 3, 2, 6, 8, 8, 4, 8, 4, 2);
-        x.forget(1);
-        // Now the least told cost is 5, or 6 against arc 0, and 5 + 2 = 7 stands against 8 for arc 3.
-        numbers(x, 0, 1, 9, 9, 0, 5, 0, 4, 2);
-        numbers(x, 1, 3, 5, 10, 1, 5, 32, 4, 2);
-        numbers(x, 2, 2, 6, 8, 8, 4, 8, 2, 1);
-        x.setBudget(0);
-        numbers(x, 0, 1, 9, 9, 0, 5, 0, 4, 2);
-        numbers(x, 1, 3, 5, 5, 0, 1, 0, 0, 0);
-        numbers(x, 2, 2, 6, 6, 0, 2, 0, 1, 1);
-        x.forget(0);
-        x.forget(1);
-        numbers(x, 0, 3, 5, 5, 0, 1, 0, 0, 0);
-        RouteBudget y = Checks.loaded(NET + "route 4;route 0 1;route 0 5 3;route 2 3;");
-        CHECKS.same("the regret witness asked for first", y.route(2, 5), 32);
-        CHECKS.same("then the told regret of another one", y.route(0, 6), 5);
-        CHECKS.same("then the regret of yet another one", y.route(1, 4), 3);
-        CHECKS.same("then another regret witness", y.route(3, 5), 8);
+    private static void promise13Six() {
+        run("promise 13, 1 with six told routes").load(SIX, 8).due("reason()", 1);
+        run("promise 13, 2 with six told routes").load(SIX, 8).make("draft(0)").due("reason()", 2)
+                .make("drop()", "draft(5)").due("reason()", 2);
+        run("promise 13, 3 if there are 6 told routes").load(SIX, 8).make("draft(6)").changesNothing("reason()", 3)
+                .make("forget(3)").due("reason()", 0).make("tell()", "draft(3)").due("reason()", 3);
+        run("promise 13, 0 with five told routes").load(SIX, 8).make("forget(5)", "draft(5)").due("reason()", 0);
+        run("promise 13, 2 with five told routes").load(SIX, 8).make("forget(5)", "draft(4)").due("reason()", 2);
     }
 
-    private static void promise17Witness() {
-        String chain = "net 8 0 7;arc 0 1 1 3;arc 1 2 1 5;arc 2 3 1 0;arc 3 4 1 5;arc 4 5 1 5;arc 5 6 1 3;arc 6 7 1 4;"
-                + "route 0 1 2 3 4 5 6;";
-        int[] witness = {0, 2, 2 + 8, 2 + 8 + 16, 2 + 8 + 16 + 64, 2 + 8 + 16 + 64 + 1, 2 + 8 + 16 + 64 + 1 + 32};
-        int[] worst = {7, 12, 17, 22, 26, 29, 32};
-        for (int budget = 0; budget <= 6; budget++) {
-            RouteBudget x = Checks.loaded(chain + "budget " + budget + ";");
-            CHECKS.same("witness for " + budget, x.route(0, 3), witness[budget]);
-            CHECKS.same("worst cost for " + budget, x.route(0, 2), worst[budget]);
-            // It is the only route, so it is the shortest one against every delay.
-            CHECKS.same("regret for " + budget, x.route(0, 4), 0);
-            CHECKS.same("regret witness for " + budget, x.route(0, 5), 0);
-        }
-        RouteBudget y = Checks.loaded("net 3 0 2;budget 1;arc 1 2 1 5;arc 0 1 1 5;route 1 0;");
-        CHECKS.same("the lower number, not the first one on the route", y.route(0, 3), 1);
-        RouteBudget z = Checks.loaded("net 3 0 2;budget 6;arc 1 2 1 0;arc 0 1 1 0;route 1 0;");
-        CHECKS.same("no extras, no witness", z.route(0, 3), 0);
+    /** "Makes the draft the last told route; it is empty then." */
+    private static void promise14() {
+        run("promise 14, the last told route").load(NET + "route 4;", 6).make("draft(2)", "draft(3)").due("tell()", 1)
+                .due("count(5)", 2).due("count(6)", 0).each("routeArc(1, #)", 2, 3).due("routeArc(0, 0)", 4)
+                .due("reason()", 1).make("draft(0)", "draft(1)").due("tell()", 2).each("routeArc(2, #)", 0, 1)
+                .each("routeArc(1, #)", 2, 3);
+        run("promise 14, the draft does not change the told route any more").load(NET, 6).make("draft(4)", "tell()",
+                "draft(0)", "draft(5)").due("routeArc(0, 0)", 4).due("route(0, 0)", 1);
+        run("promise 14, the sixth told route").load(SIX, 8).make("forget(0)", "draft(7)").due("tell()", 5)
+                .due("routeArc(5, 0)", 7).due("count(5)", 6);
+        run("promise 14, the journey goes on").load(NET, 6).make("step(0, true)", "draft(4)", "tell()").due("count(11)", 1)
+                .due("count(9)", 7);
+        run("promise 14, one change").load(NET, 6).make("draft(4)").undoes("tell()").due("count(6)", 1).due("tell()", 0);
     }
 
-    private static void promise17RegretWitness() {
-        // 0 1 2 regrets 4 with each of its arcs 0 to 2 delayed, but not more with two of them.
-        RouteBudget x = Checks.loaded("net 4 0 3;budget 2;arc 0 1 0 4;arc 1 2 0 4;arc 2 3 0 4;arc 0 3 0 4;route 0 1 2;");
-        numbers(x, 0, 3, 0, 8, 3, 8, 3, 0, 0);
-        x.setBudget(1);
-        numbers(x, 0, 3, 0, 4, 1, 4, 1, 0, 0);
-        // The arcs shared with the other route bring no regret; the numbers are against the order on the route.
-        RouteBudget y = Checks.loaded("net 4 0 3;budget 3;arc 2 3 1 5;arc 1 2 1 5;arc 0 1 1 9;arc 1 3 4 0;route 2 1 0;");
-        numbers(y, 0, 3, 3, 22, 7, 8, 3, 0, 0);
-        y.setBudget(1);
-        numbers(y, 0, 3, 3, 12, 4, 3, 1, 0, 0);
-        // One arc does as much as two others together: the fewest arcs count before the least number.
-        RouteBudget z = Checks.loaded("net 4 0 3;budget 2;arc 0 1 0 3;arc 1 2 0 3;arc 2 3 0 9;arc 0 3 0 0;arc 1 3 0 0;"
-                + "arc 0 3 6 0;route 0 1 2;");
-        numbers(z, 0, 3, 0, 12, 5, 12, 5, 0, 0);
-        RouteBudget w = Checks.loaded("net 4 0 3;budget 2;arc 0 1 0 3;arc 1 2 0 3;arc 2 3 0 6;arc 0 3 6 0;arc 1 3 0 3;"
-                + "route 0 1 2;");
-        // The witness of the route is the delay of 0 and 2, but that of its regret is the one of 1 and 2.
-        numbers(w, 0, 3, 0, 9, 5, 9, 6, 0, 0);
-        w.setBudget(1);
-        numbers(w, 0, 3, 0, 6, 4, 6, 4, 0, 0);
+    private static void promise14Refuses() {
+        run("promise 14, an empty draft").refuses("tell()", Run.STATE).load(NET, 6).refuses("tell()", Run.STATE);
+        run("promise 14, a draft on the way").load(NET, 6).make("draft(0)").refuses("tell()", Run.STATE).make("draft(5)")
+                .refuses("tell()", Run.STATE).make("draft(3)").due("tell()", 0).refuses("tell()", Run.STATE);
+        run("promise 14, told already").load(NET + "route 4;", 6).make("draft(4)").refuses("tell()", Run.STATE);
+        run("promise 14, 6 told routes").load(SIX, 8).make("draft(6)").refuses("tell()", Run.STATE).make("forget(0)")
+                .due("tell()", 5).make("draft(7)").refuses("tell()", Run.STATE);
     }
 
-    private static void promise17ToldRegret() {
-        RouteBudget x = Checks.loaded("net 2 0 1;budget 1;arc 0 1 5 5;arc 0 1 4 9;arc 0 1 1 1;route 0;route 1;");
-        numbers(x, 0, 1, 5, 10, 1, 9, 1, 6, 1);
-        numbers(x, 1, 1, 4, 13, 2, 12, 2, 8, 1);
-        x.setBudget(0);
-        numbers(x, 0, 1, 5, 5, 0, 4, 0, 1, 1);
-        numbers(x, 1, 1, 4, 4, 0, 3, 0, 0, 0);
+    /** "Forgets a told route; those behind it get numbers that are lower by 1." */
+    private static void promise15() {
+        run("promise 15, the route does not exist").load(SIX, 8).refuses("forget(-1)", Run.OUT)
+                .refuses("forget(6)", Run.OUT).refuses("forget(2147483647)", Run.OUT)
+                .refuses("forget(-2147483648)", Run.OUT).due("forget(5)", 5).refuses("forget(5)", Run.OUT);
+        run("promise 15, no route exists").load(NET, 6).refuses("forget(0)", Run.OUT).make("draft(4)")
+                .refuses("forget(0)", Run.OUT).make("tell()").due("forget(0)", 0).refuses("forget(0)", Run.OUT);
+        run("promise 15, the draft and the journey stay").load(NET + "route 4;", 6).make("draft(0)", "step(2, true)")
+                .due("forget(0)", 0).due("count(6)", 1).due("count(11)", 1).due("draft(1)", 3);
+        run("promise 15, one change").load(NET + "route 4;route 0 1;route 2 3;", 6).undoes("forget(0)").undoes("forget(2)")
+                .undoes("forget(1)");
     }
 
-    private static void promise17Refuses() {
-        RouteBudget x = Checks.loaded(NET + "route 0 1;");
-        CHECKS.refuses(x, "route(1, 0)", IndexOutOfBoundsException.class, () -> x.route(1, 0));
-        CHECKS.refuses(x, "route(-1, 0)", IndexOutOfBoundsException.class, () -> x.route(-1, 0));
-        CHECKS.refuses(x, "route(6, 0)", IndexOutOfBoundsException.class, () -> x.route(6, 0));
-        CHECKS.refuses(x, "route(1, 8)", IndexOutOfBoundsException.class, () -> x.route(1, 8));
-        CHECKS.refuses(x, "route(0, 8)", IllegalArgumentException.class, () -> x.route(0, 8));
-        CHECKS.refuses(x, "route(0, -1)", IllegalArgumentException.class, () -> x.route(0, -1));
+    private static void promise15Numbers() {
+        run("promise 15, the first").load(SIX, 8).due("forget(0)", 5).each("routeArc(#, 0)", 1, 2, 3, 4, 5)
+                .refuses("routeArc(5, 0)", Run.OUT);
+        run("promise 15, one in the middle").load(SIX, 8).due("forget(2)", 5).each("routeArc(#, 0)", 0, 1, 3, 4, 5);
+        run("promise 15, the last").load(SIX, 8).due("forget(5)", 5).each("routeArc(#, 0)", 0, 1, 2, 3, 4)
+                .refuses("routeArc(5, 0)", Run.OUT);
+        run("promise 15, all").load(SIX, 8).due("forget(0)", 5).due("forget(0)", 4).due("forget(0)", 3).due("forget(0)", 2)
+                .due("forget(0)", 1).due("routeArc(0, 0)", 5).due("forget(0)", 0).refuses("chosen()", Run.NO_ELEMENT);
+        run("promise 15, routes of other lengths move up").load(NET + "route 4;route 0 5 3;route 2 3;", 6)
+                .due("forget(0)", 2).each("routeArc(0, #)", 0, 5, 3).each("routeArc(1, #)", 2, 3)
+                .refuses("routeArc(1, 2)", Run.OUT).due("forget(0)", 1).each("routeArc(0, #)", 2, 3)
+                .refuses("routeArc(0, 2)", Run.OUT);
     }
 
-    private static void promise18Cost() {
-        RouteBudget x = Checks.loaded(NET + "budget 0;route 0 5 3;");
-        CHECKS.same("cost(0, 0)", x.cost(0, 0), 5);
-        CHECKS.same("cost(0, 1)", x.cost(0, 1), 10);
-        CHECKS.same("cost(0, 32)", x.cost(0, 32), 9);
-        CHECKS.same("cost(0, 41)", x.cost(0, 41), 16);
-        CHECKS.same("arcs of other routes", x.cost(0, 2 + 4 + 16), 5);
-        CHECKS.same("cost(0, -1)", x.cost(0, -1), 16);
-        CHECKS.same("bits without arcs", x.cost(0, 0xffffffc0), 5);
-        CHECKS.same("the highest bit", x.cost(0, Integer.MIN_VALUE), 5);
-        CHECKS.refuses(x, "cost(1, 0)", IndexOutOfBoundsException.class, () -> x.cost(1, 0));
-        CHECKS.refuses(x, "cost(-1, 0)", IndexOutOfBoundsException.class, () -> x.cost(-1, 0));
-    }
-
-    private static void promise19Chosen() {
-        RouteBudget x = Checks.loaded(NET);
-        CHECKS.refuses(x, "chosen of none", java.util.NoSuchElementException.class, x::chosen);
-        RouteBudget y = Checks.loaded(NET + "route 4;route 0 5 3;route 2 3;route 0 1;");
-        CHECKS.same("told regrets 5, 5, 4, 3", y.chosen(), 3);
-        y.forget(3);
-        CHECKS.same("told regrets 4, 4, 2", y.chosen(), 2);
-        y.forget(2);
-        CHECKS.same("told regrets 4 and 1", y.chosen(), 1);
-        y.forget(0);
-        CHECKS.same("the only one", y.chosen(), 0);
-        CHECKS.same("the lowest of equal ones", Checks.loaded(SIX).chosen(), 0);
-    }
-
-    private static void promise20Beats() {
-        RouteBudget x = Checks.loaded(NET + "route 4;route 0 1;route 0 5 3;route 2 3;");
-        boolean[][] due = {
-            {false, false, true, false},
-            {true, false, true, true},
-            {true, false, false, true},
-            {true, true, true, false},
-        };
-        for (int route = 0; route < 4; route++) {
-            for (int other = 0; other < 4; other++) {
-                CHECKS.same("beats(" + route + ", " + other + ")", x.beats(route, other) ? 1 : 0,
-                        due[route][other] ? 1 : 0);
-            }
-        }
-        CHECKS.refuses(x, "beats(4, 0)", IndexOutOfBoundsException.class, () -> x.beats(4, 0) ? 1 : 0);
-        CHECKS.refuses(x, "beats(0, 4)", IndexOutOfBoundsException.class, () -> x.beats(0, 4) ? 1 : 0);
-        CHECKS.refuses(x, "beats(-1, 0)", IndexOutOfBoundsException.class, () -> x.beats(-1, 0) ? 1 : 0);
-        CHECKS.refuses(x, "beats(0, -1)", IndexOutOfBoundsException.class, () -> x.beats(0, -1) ? 1 : 0);
-        CHECKS.same("equal costs do not beat", Checks.loaded(SIX.replace("1 1;", "1 0;")).beats(0, 1) ? 1 : 0, 0);
-    }
-
-    private static void strains(RouteBudget x, int route, float due) {
-        CHECKS.same("strain(" + route + ")", Float.floatToIntBits(x.strain(route)), Float.floatToIntBits(due));
-    }
-
-    private static void promise21Strain() {
-        RouteBudget x = Checks.loaded("net 2 0 1;arc 0 1 3 7;arc 0 1 4 0;arc 0 1 0 9;arc 0 1 0 0;route 0;route 1;route 2;"
-                + "route 3;");
-        strains(x, 0, 10.0f / 3.0f);
-        strains(x, 1, 1.0f);
-        strains(x, 2, 1.0f);
-        strains(x, 3, 1.0f);
-        CHECKS.refuses(x, "strain(4)", IndexOutOfBoundsException.class, () -> (int) x.strain(4));
-        CHECKS.refuses(x, "strain(-1)", IndexOutOfBoundsException.class, () -> (int) x.strain(-1));
-        x.setBudget(0);
-        strains(x, 0, 1.0f);
+    private static void promise16() {
+        run("promise 16, 0 for its first arc").load(NET + "route 0 5 3;route 4;", 6).each("routeArc(0, #)", 0, 5, 3)
+                .changesNothing("routeArc(1, 0)", 4);
+        run("promise 16, has not so many arcs").load(NET + "route 0 5 3;route 4;", 6).refuses("routeArc(0, -1)", Run.OUT)
+                .refuses("routeArc(0, 3)", Run.OUT).refuses("routeArc(1, 1)", Run.OUT).refuses("routeArc(1, 7)", Run.OUT)
+                .refuses("routeArc(0, 2147483647)", Run.OUT).refuses("routeArc(0, -2147483648)", Run.OUT);
+        run("promise 16, a route of 7 arcs").load(CHAIN + "route 0 1 2 3 4 5 6;", 12).due("routeArc(0, 6)", 6)
+                .refuses("routeArc(0, 7)", Run.OUT);
+        run("promise 16, the route does not exist").load(NET + "route 0 5 3;route 4;", 6).refuses("routeArc(2, 0)", Run.OUT)
+                .refuses("routeArc(-1, 0)", Run.OUT).refuses("routeArc(6, 0)", Run.OUT)
+                .refuses("routeArc(2147483647, 0)", Run.OUT).refuses("routeArc(-2147483648, 0)", Run.OUT);
+        run("promise 16, the draft is no told route").load(NET, 6).make("draft(4)").refuses("routeArc(0, 0)", Run.OUT);
     }
 }
