@@ -188,6 +188,12 @@ public final class RoutesTest {
                 .due("calm(4)", 0).make("undo()").due("robust(2)", 8).due("calm(4)", 3).load(NO_ROUTE, 3)
                 .refuses("robust(2)", Run.NO_ELEMENT).refuses("calm(4)", Run.NO_ELEMENT).make("undo()")
                 .each("robust(#)", 2, 6, 8, 8, 4, 8).each("calm(#)", 2, 4, 9, 1, 3, 1);
+        Run often = run("promises 23 and 24, up to the 512th call").load("net 6 0 5;" + "arc 0 1 1 1;".repeat(3)
+                + "arc 1 2 1 1;".repeat(3) + "arc 2 3 1 1;".repeat(3) + "arc 3 4 1 1;".repeat(3) + "arc 4 5 1 1;".repeat(4), 16);
+        for (int round = 0; round < 166; round++) {
+            int cost = round % 2;
+            often.make("setArc(0, " + cost + ", 1)").due("robust(2)", 6 + cost).due("calm(1)", 4 + cost);
+        }
         run("promises 23 and 24, told routes do not matter").load(NET + "route 4;", 6).each("robust(#)", 2, 6, 8, 8, 4, 8)
                 .each("calm(#)", 2, 4, 9, 1, 3, 1);
     }

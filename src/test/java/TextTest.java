@@ -292,6 +292,8 @@ public final class TextTest {
         wrong("another letter", "nat 2 0 1;", SYNTAX, 0);
         wrong("a capital letter in front", "Net 2 0 1;", SYNTAX, 0);
         wrong("a capital letter at the end", "neT 2 0 1;", SYNTAX, 0);
+        wrong("a capital letter behind a word", "netA 2 0 1;", SYNTAX, 3);
+        wrong("another capital letter behind a word", "net 2 0 1;arcZ 0 1 1 1;", SYNTAX, 13);
         wrong("a word of two parts", "ne t 2 0 1;", SYNTAX, 0);
         wrong("arcs", "net 2 0 1; arcs 0 1 1 1;", SYNTAX, 11);
         wrong("ar", "net 2 0 1; ar 0 1 1 1;", SYNTAX, 11);

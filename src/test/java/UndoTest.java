@@ -18,6 +18,7 @@ public final class UndoTest {
         promise35EightChanges();
         promise35NineChanges();
         promise35Mixed();
+        promise35LastCall();
         promise35NoChange();
         promise35Refused();
         promise35Keeps();
@@ -179,6 +180,23 @@ public final class UndoTest {
                 "setBudget(1)", "setBudget(2)", "setBudget(3)", "setBudget(4)", "setBudget(5)", "setBudget(6)", "restart()")
                 .due("undo()", 7).due("undo()", 6).due("undo()", 5).due("undo()", 4).due("undo()", 3).due("undo()", 2)
                 .due("undo()", 1).due("undo()", 0).due("count(4)", 2).refuses("undo()", Run.STATE);
+    }
+
+    /** "An object is used for at most 512 calls after it has been made": the 512th call answers as all before it. */
+    private static void promise35LastCall() {
+        Run changes = run("promise 35, the 512th call");
+        for (int change = 0; change < 503; change++) {
+            changes.due("setBudget(" + change % 7 + ")", change == 0 ? 2 : (change - 1) % 7);
+        }
+        for (int left = 7; left >= 0; left--) {
+            changes.due("undo()", left);
+        }
+        changes.due("undo()", "throws." + Run.STATE);
+        Run last = run("promise 35, the 512th call undoes the 511th");
+        for (int change = 0; change < 510; change++) {
+            last.make("restart()");
+        }
+        last.due("addArc(0, 1, 5, 6)", 0).due("undo()", 7);
     }
 
     /** Only the changes of the list count; "a text with an error is no change". */
