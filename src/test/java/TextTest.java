@@ -340,6 +340,9 @@ public final class TextTest {
                 .each("count(#)", 3, 1, 0, 2, 1, 1, 0, 1);
         right("a space at the end", "net 2 0 1; ", 0);
         wrong("only spaces", "    ", SYNTAX, 4);
+        wrong("only spaces, 600 bytes of them", " ".repeat(600), SYNTAX, 600);
+        wrong("only one word, 600 bytes of it", "n".repeat(600), SYNTAX, 0);
+        wrong("only one number, 600 bytes of it", "0".repeat(600), SYNTAX, 0);
         wrong("byte 31", "net 2 0 1;\u001f", SYNTAX, 10);
         wrong("byte 33", "net 2 0 1;!", SYNTAX, 10);
         wrong("a tabulator", "net\t2 0 1;", SYNTAX, 3);
