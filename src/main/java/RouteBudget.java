@@ -282,12 +282,16 @@ public final class RouteBudget {
 
     public int robust(int what) throws IllegalArgumentException, NoSuchElementException {
         requireRouteNumber(what);
-        return bestNumber(ranking.robustRoute(), what);
+        Path best = ranking.robustRoute();
+        requireSome(best);
+        return numberOf(best, what);
     }
 
     public int calm(int what) throws IllegalArgumentException, NoSuchElementException {
         requireRouteNumber(what);
-        return bestNumber(ranking.calmRoute(), what);
+        Path best = ranking.calmRoute();
+        requireSome(best);
+        return numberOf(best, what);
     }
 
     public int bestArc(boolean calm, int index) throws IndexOutOfBoundsException {
@@ -407,6 +411,13 @@ public final class RouteBudget {
         }
     }
 
+    /** The best route of a network without any is an empty path. */
+    private static void requireSome(Path best) {
+        if (best.length == 0) {
+            throw new NoSuchElementException("there is no route");
+        }
+    }
+
     /** Stands before every change, once nothing can be thrown any more. */
     private void beginChange() {
         history.keep(now);
@@ -423,13 +434,6 @@ public final class RouteBudget {
             throw new IndexOutOfBoundsException("the route has not so many arcs");
         }
         return path.arcs[index];
-    }
-
-    private int bestNumber(Path best, int what) {
-        if (best.length == 0) {
-            throw new NoSuchElementException("there is no route");
-        }
-        return numberOf(best, what);
     }
 
     /** The numbers 0 to 5 that told routes, the robust and the calm route have in common. */
@@ -1010,17 +1014,15 @@ public final class RouteBudget {
             return readRouteEnd(state, path);
         }
 
+        /** The spaces in front of the semicolon are behind us. */
         boolean readRouteEnd(State state, Path path) {
-            int start = place;
-            if (!readSemicolon()) {
-                return false;
-            }
-            if (state.network.endOf(path) != state.network.target) {
-                return fail(SYNTAX_ERROR, start);
+            if (peek() != ';' || state.network.endOf(path) != state.network.target) {
+                return fail(SYNTAX_ERROR, place);
             }
             if (state.wasTold(path)) {
-                return fail(VALUE_ERROR, start);
+                return fail(VALUE_ERROR, place);
             }
+            place++;
             state.addTold(path);
             path.clear();
             return true;
@@ -1157,14 +1159,14 @@ public final class RouteBudget {
             greatestDelay = 0;
             for (int picked = (1 << path.length) - 1; picked >= 0 && greatest <= limit; picked--) {
                 if (Integer.bitCount(picked) <= network.budget) {
-                    tryDelay(path, path.delayAt(picked), isAmongTold);
+                    int delay = path.delayAt(picked);
+                    int least = isAmongTold ? leastToldCost(delay) : shortestCost(delay);
+                    keepGreater(network.costAgainst(path, delay) - least, delay);
                 }
             }
         }
 
-        void tryDelay(Path path, int delay, boolean isAmongTold) {
-            int least = isAmongTold ? leastToldCost(delay) : shortestCost(delay);
-            int difference = network.costAgainst(path, delay) - least;
+        void keepGreater(int difference, int delay) {
             if (difference > greatest || (difference == greatest && isFirstOf(delay, greatestDelay))) {
                 greatest = difference;
                 greatestDelay = delay;
@@ -1377,7 +1379,8 @@ public final class RouteBudget {
             if (left == 0) {
                 return undelayed;
             }
-            return Math.max(undelayed, cost + network.extras[arc] + worths[left - 1][head]);
+            int delayed = cost + network.extras[arc] + worths[left - 1][head];
+            return delayed > undelayed ? delayed : undelayed;
         }
     }
 }
